@@ -21,6 +21,8 @@ public final class ForecastTest {
         promise17DigestOfANewObject();
         promise17DigestOfAUsedObject();
         forecastsChangeNothing();
+        forecastsTellWhatComes();
+        forecastsKnowWhoseHandsAreFreed();
         check.end();
     }
 
@@ -246,6 +248,58 @@ public final class ForecastTest {
             check.unchanged(train, "advise(1, 100)", () -> train.advise(1, 100));
             train.pass(minutes);
         }
-        check.same("arrives(1)", train.arrives(1), train.foresee(161 - train.count(0), 7) > 0 ? 161 - train.count(0) : -1);
+    }
+
+    /** A night with full holes, jolts, tea, and a letter that is late in hands, so that all of it is foreseen. */
+    private static NightSorters busyNight(int minutes) {
+        NightSorters train = new NightSorters();
+        train.hire(4, ALL);
+        train.hire(1, 1 << 5 | 1 << 12);
+        train.hire(3, 1 << 12 | 1 << 6 | 1 << 7);
+        train.setStation(1, 33, 2);
+        train.setStation(3, 86, 3);
+        train.tea(2);
+        post(train, 0, 12, 5, 12, 12, 2, 12, 12, 3, 12, 12, 2, 12, 12, 12, 6, 7, 4, 3);
+        post(train, 1, 7, 7, 6, 12, 9, 5, 6, 15, 6, 7, 1);
+        post(train, 2, 12, 13, 6, 12, 7, 7);
+        if (minutes > 0) {
+            train.pass(minutes);
+        }
+        return train;
+    }
+
+    private static void forecastsTellWhatComes() {
+        for (int begin = 0; begin <= 100; begin++) {
+            NightSorters train = busyNight(begin);
+            for (int minutes = 1; minutes <= 91; minutes += 6) {
+                NightSorters later = busyNight(begin);
+                later.pass(minutes);
+                for (int what = 3; what <= 8; what++) {
+                    String call = "foresee(" + minutes + ", " + what + ") in " + begin;
+                    check.same(call, train.foresee(minutes, what), later.count(what));
+                }
+            }
+            NightSorters end = busyNight(begin);
+            end.pass(200);
+            for (int letter = 0; letter < end.count(1); letter++) {
+                boolean never = end.letter(letter, 0) != 4;
+                int due = never ? -1 : Math.max(0, end.letter(letter, 4) + 1 - begin);
+                check.same("arrives(" + letter + ") in " + begin, train.arrives(letter), due);
+            }
+        }
+    }
+
+    private static void forecastsKnowWhoseHandsAreFreed() {
+        NightSorters train = new NightSorters();
+        train.hire(9, 0);
+        train.hire(9, 1 << 2 | 1 << 15);
+        train.setStation(1, 28, 0);
+        post(train, 0, 2, 15);
+        train.pass(22);
+        check.same("letter(0, 3)", train.letter(0, 3), 1);
+        check.same("foresee(139, 8)", train.foresee(139, 8), 1);
+        check.same("foresee(7, 5)", train.foresee(7, 5), 0);
+        check.same("foresee(8, 5)", train.foresee(8, 5), 1);
+        check.same("arrives(1)", train.arrives(1), 139);
     }
 }

@@ -1,3 +1,9 @@
+import java.lang.reflect.InvocationTargetException;
+import java.lang.reflect.Method;
+import java.lang.reflect.Modifier;
+import java.util.HashMap;
+import java.util.Map;
+
 /** Long runs of mixed calls, each answered by the class and by PlainTrain; the digest is compared behind each call. */
 public final class ModelTest {
     private static final int RUNS = 150;
@@ -8,6 +14,9 @@ public final class ModelTest {
     };
     // Posting and passing come more often: without them a run has little to tell.
     private static final int[] OFTEN = {4, 16, 2, 3, 3, 3, 2, 2, 2, 2, 10, 3, 3, 1, 1, 1};
+
+    private static final Map<String, Method> CALLS_OF_CLASS = callsOf(NightSorters.class);
+    private static final Map<String, Method> CALLS_OF_MODEL = callsOf(PlainTrain.class);
 
     private static final Check check = new Check("ModelTest");
 
@@ -69,7 +78,7 @@ public final class ModelTest {
 
     private static void compare(int run, NightSorters train, PlainTrain plain, String method, int... a) {
         String told = "run " + run + ", " + method + "(" + a[0] + ", " + a[1] + ", " + a[2] + ")";
-        check.same(told, answer(train, method, a), answer(plain, method, a));
+        check.same(told, answer(CALLS_OF_CLASS, train, method, a), answer(CALLS_OF_MODEL, plain, method, a));
         check.same("digest() behind " + told, train.digest(), plain.digest());
     }
 
@@ -149,53 +158,28 @@ public final class ModelTest {
         }
     }
 
-    private static String answer(NightSorters x, String method, int[] a) {
+    private static String answer(Map<String, Method> calls, Object train, String method, int[] a) {
+        Method call = calls.get(method);
+        Object[] arguments = new Object[call.getParameterCount()];
+        for (int i = 0; i < arguments.length; i++) {
+            arguments[i] = a[i];
+        }
         try {
-            switch (method) {
-                case "setStation": return "" + x.setStation(a[0], a[1], a[2]);
-                case "post": return "" + x.post(a[0], a[1]);
-                case "hire": return "" + x.hire(a[0], a[1]);
-                case "assign": return "" + x.assign(a[0], a[1]);
-                case "tea": return "" + x.tea(a[0]);
-                case "letter": return "" + x.letter(a[0], a[1]);
-                case "sorter": return "" + x.sorter(a[0], a[1]);
-                case "hole": return "" + x.hole(a[0]);
-                case "station": return "" + x.station(a[0], a[1]);
-                case "count": return "" + x.count(a[0]);
-                case "pass": return "" + x.pass(a[0]);
-                case "arrives": return "" + x.arrives(a[0]);
-                case "foresee": return "" + x.foresee(a[0], a[1]);
-                case "advise": return "" + x.advise(a[0], a[1]);
-                case "share": return "" + x.share();
-                default: return "" + x.digest();
-            }
-        } catch (RuntimeException e) {
-            return e.getClass().getSimpleName();
+            return "" + call.invoke(train, arguments);
+        } catch (InvocationTargetException e) {
+            return e.getCause().getClass().getSimpleName();
+        } catch (IllegalAccessException e) {
+            return "no such call";
         }
     }
 
-    private static String answer(PlainTrain x, String method, int[] a) {
-        try {
-            switch (method) {
-                case "setStation": return "" + x.setStation(a[0], a[1], a[2]);
-                case "post": return "" + x.post(a[0], a[1]);
-                case "hire": return "" + x.hire(a[0], a[1]);
-                case "assign": return "" + x.assign(a[0], a[1]);
-                case "tea": return "" + x.tea(a[0]);
-                case "letter": return "" + x.letter(a[0], a[1]);
-                case "sorter": return "" + x.sorter(a[0], a[1]);
-                case "hole": return "" + x.hole(a[0]);
-                case "station": return "" + x.station(a[0], a[1]);
-                case "count": return "" + x.count(a[0]);
-                case "pass": return "" + x.pass(a[0]);
-                case "arrives": return "" + x.arrives(a[0]);
-                case "foresee": return "" + x.foresee(a[0], a[1]);
-                case "advise": return "" + x.advise(a[0], a[1]);
-                case "share": return "" + x.share();
-                default: return "" + x.digest();
+    private static Map<String, Method> callsOf(Class<?> type) {
+        Map<String, Method> calls = new HashMap<>();
+        for (Method method : type.getDeclaredMethods()) {
+            if (!Modifier.isPrivate(method.getModifiers())) {
+                calls.put(method.getName(), method);
             }
-        } catch (RuntimeException e) {
-            return e.getClass().getSimpleName();
         }
+        return calls;
     }
 }

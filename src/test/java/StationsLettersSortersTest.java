@@ -120,6 +120,8 @@ public final class StationsLettersSortersTest {
                 check.same("letter(" + letter + ", " + what + ")", train.letter(letter, what), due[letter][what]);
             }
         }
+        check.same("station(0, 2)", train.station(0, 2), 1);
+        check.same("station(7, 2)", train.station(7, 2), 2);
         for (int station : WRONG_STATIONS) {
             check.indexRefused(train, "post(" + station + ", 0)", () -> train.post(station, 0));
         }
