@@ -1,6 +1,6 @@
 /** Promises 13 to 17: arrives, foresee, advise, share, digest. */
 public final class ForecastTest {
-    private static final int ALL = 65535;
+    private static final int ALL = Trains.ALL;
     private static final int[] FAR = {Integer.MIN_VALUE, -1, Integer.MAX_VALUE};
 
     private static final Check check = new Check("ForecastTest");
@@ -26,16 +26,10 @@ public final class ForecastTest {
         check.end();
     }
 
-    private static void post(NightSorters train, int station, int... towns) {
-        for (int town : towns) {
-            train.post(station, town);
-        }
-    }
-
     private static void promise13Arrives() {
         NightSorters train = new NightSorters();
         train.hire(1, ALL);
-        post(train, 0, 2, 15, 1);
+        Trains.post(train, 0, 2, 15, 1);
         check.same("arrives(0)", train.arrives(0), 41);
         check.same("arrives(1)", train.arrives(1), 161);
         check.same("arrives(2)", train.arrives(2), -1);
@@ -54,7 +48,7 @@ public final class ForecastTest {
     private static void promise13ArrivesAtMost300() {
         NightSorters train = new NightSorters();
         train.hire(1, ALL);
-        post(train, 0, 15);
+        Trains.post(train, 0, 15);
         train.setStation(7, 300, 0);
         check.same("arrives(0), 301 minutes", train.arrives(0), -1);
         train.setStation(7, 299, 0);
@@ -66,11 +60,11 @@ public final class ForecastTest {
 
     private static void promise13ArrivesNever() {
         NightSorters train = new NightSorters();
-        post(train, 0, 15);
+        Trains.post(train, 0, 15);
         check.same("arrives(0) without sorters", train.arrives(0), -1);
         train.hire(1, ALL);
         train.pass(30);
-        post(train, 0, 15);
+        Trains.post(train, 0, 15);
         check.same("arrives(0)", train.arrives(0), 131);
         check.same("arrives(1), in a passed bag", train.arrives(1), -1);
     }
@@ -78,8 +72,8 @@ public final class ForecastTest {
     private static void promise14Foresee() {
         NightSorters train = new NightSorters();
         train.hire(9, ALL);
-        post(train, 0, 2, 15, 1, 14);
-        post(train, 3, 14);
+        Trains.post(train, 0, 2, 15, 1, 14);
+        Trains.post(train, 3, 14);
         int[][] due = {
             {20, 5, 0, 0, 0, 0, 0},
             {21, 1, 3, 0, 0, 0, 1},
@@ -99,7 +93,7 @@ public final class ForecastTest {
 
     private static void promise14ForeseeLimits() {
         NightSorters train = new NightSorters();
-        post(train, 0, 2);
+        Trains.post(train, 0, 2);
         for (int minutes : new int[] {0, -1, 301, Integer.MIN_VALUE, Integer.MAX_VALUE}) {
             check.argumentRefused(train, "foresee(" + minutes + ", 3)", () -> train.foresee(minutes, 3));
             check.argumentRefused(train, "foresee(" + minutes + ", 9)", () -> train.foresee(minutes, 9));
@@ -112,7 +106,7 @@ public final class ForecastTest {
     private static void promise15AdviseTakesTheMost() {
         NightSorters train = new NightSorters();
         train.hire(1, 1 << 3);
-        post(train, 0, 3, 4, 7, 7, 9);
+        Trains.post(train, 0, 3, 4, 7, 7, 9);
         check.same("advise(0, 120)", train.advise(0, 120), 7);
         train.assign(0, 1 << 3 | 1 << 7);
         check.same("advise(0, 120), 7 is taken already", train.advise(0, 120), 4);
@@ -124,7 +118,7 @@ public final class ForecastTest {
     private static void promise15AdviseTakesTheSmallest() {
         NightSorters train = new NightSorters();
         train.hire(1, 0);
-        post(train, 0, 9, 9, 6, 6, 4);
+        Trains.post(train, 0, 9, 9, 6, 6, 4);
         check.same("advise(0, 120)", train.advise(0, 120), 6);
     }
 
@@ -132,9 +126,9 @@ public final class ForecastTest {
         NightSorters train = new NightSorters();
         train.hire(1, 0);
         check.same("advise(0, 120) without letters", train.advise(0, 120), -1);
-        post(train, 0, 0, 1);
+        Trains.post(train, 0, 0, 1);
         check.same("advise(0, 120) for late letters", train.advise(0, 120), -1);
-        post(train, 0, 2);
+        Trains.post(train, 0, 2);
         check.same("advise(0, 120)", train.advise(0, 120), 2);
         train.assign(0, 1 << 2);
         check.same("advise(0, 120), it has the town", train.advise(0, 120), -1);
@@ -143,7 +137,7 @@ public final class ForecastTest {
     private static void promise15AdviseLooksOnlySoFar() {
         NightSorters train = new NightSorters();
         train.hire(1, 0);
-        post(train, 0, 2, 4, 4);
+        Trains.post(train, 0, 2, 4, 4);
         check.same("advise(0, 40)", train.advise(0, 40), -1);
         check.same("advise(0, 41)", train.advise(0, 41), 2);
         check.same("advise(0, 60)", train.advise(0, 60), 2);
@@ -154,7 +148,7 @@ public final class ForecastTest {
     private static void promise15AdviseCountsHarmToo() {
         NightSorters train = new NightSorters();
         train.hire(9, 1 << 2);
-        post(train, 0, 6, 2, 2);
+        Trains.post(train, 0, 6, 2, 2);
         check.same("advise(0, 41)", train.advise(0, 41), -1);
         check.same("advise(0, 81)", train.advise(0, 81), -1);
         train.assign(0, 0);
@@ -180,7 +174,7 @@ public final class ForecastTest {
         NightSorters train = new NightSorters();
         check.same("share()", train.share(), 0.0);
         train.hire(1, ALL);
-        post(train, 0, 1, 2, 3, 4);
+        Trains.post(train, 0, 1, 2, 3, 4);
         check.same("share()", train.share(), 0.0);
         train.pass(21);
         check.same("share() with one late", train.share(), 0.0);
@@ -190,7 +184,7 @@ public final class ForecastTest {
         check.same("share() with three delivered", train.share(), 0.75);
         NightSorters best = new NightSorters();
         best.hire(1, ALL);
-        post(best, 0, 2);
+        Trains.post(best, 0, 2);
         best.pass(41);
         check.same("share() with none late", best.share(), 1.0);
     }
@@ -216,8 +210,8 @@ public final class ForecastTest {
         train.hire(1, 1 << 2 | 1 << 14);
         train.hire(9, 1 << 15);
         train.setStation(2, 61, 3);
-        post(train, 0, 2, 14, 3, 15, 13);
-        post(train, 3, 12);
+        Trains.post(train, 0, 2, 14, 3, 15, 13);
+        Trains.post(train, 3, 12);
         train.tea(1);
         train.pass(42);
         long due = digestOf(
@@ -240,7 +234,7 @@ public final class ForecastTest {
         train.hire(3, 1 << 7);
         train.hire(2, ALL);
         train.setStation(1, 33, 3);
-        post(train, 0, 2, 15, 7, 7, 9, 1);
+        Trains.post(train, 0, 2, 15, 7, 7, 9, 1);
         for (int minutes = 1; minutes <= 41; minutes += 20) {
             check.unchanged(train, "arrives(1)", () -> train.arrives(1));
             check.unchanged(train, "foresee(100, 7)", () -> train.foresee(100, 7));
@@ -259,9 +253,9 @@ public final class ForecastTest {
         train.setStation(1, 33, 2);
         train.setStation(3, 86, 3);
         train.tea(2);
-        post(train, 0, 12, 5, 12, 12, 2, 12, 12, 3, 12, 12, 2, 12, 12, 12, 6, 7, 4, 3);
-        post(train, 1, 7, 7, 6, 12, 9, 5, 6, 15, 6, 7, 1);
-        post(train, 2, 12, 13, 6, 12, 7, 7);
+        Trains.post(train, 0, 12, 5, 12, 12, 2, 12, 12, 3, 12, 12, 2, 12, 12, 12, 6, 7, 4, 3);
+        Trains.post(train, 1, 7, 7, 6, 12, 9, 5, 6, 15, 6, 7, 1);
+        Trains.post(train, 2, 12, 13, 6, 12, 7, 7);
         if (minutes > 0) {
             train.pass(minutes);
         }
@@ -294,7 +288,7 @@ public final class ForecastTest {
         train.hire(9, 0);
         train.hire(9, 1 << 2 | 1 << 15);
         train.setStation(1, 28, 0);
-        post(train, 0, 2, 15);
+        Trains.post(train, 0, 2, 15);
         train.pass(22);
         check.same("letter(0, 3)", train.letter(0, 3), 1);
         check.same("foresee(139, 8)", train.foresee(139, 8), 1);

@@ -1,6 +1,6 @@
 /** Promise 12, pass, and what "Terms" says that a minute does. */
 public final class MinutesTest {
-    private static final int ALL = 65535;
+    private static final int ALL = Trains.ALL;
 
     private static final Check check = new Check("MinutesTest");
 
@@ -30,22 +30,8 @@ public final class MinutesTest {
         check.end();
     }
 
-    private static NightSorters trainWith(int[]... sorters) {
-        NightSorters train = new NightSorters();
-        for (int[] sorter : sorters) {
-            train.hire(sorter[0], sorter[1]);
-        }
-        return train;
-    }
-
-    private static void post(NightSorters train, int station, int... towns) {
-        for (int town : towns) {
-            train.post(station, town);
-        }
-    }
-
     private static void passAnswersAndLimits() {
-        NightSorters train = trainWith();
+        NightSorters train = Trains.with();
         check.same("pass(1)", train.pass(1), 0);
         check.same("pass(300)", train.pass(300), 0);
         check.same("count(0)", train.count(0), 301);
@@ -55,8 +41,8 @@ public final class MinutesTest {
     }
 
     private static void passCountsOnlyItsOwnDeliveries() {
-        NightSorters train = trainWith(new int[] {1, ALL});
-        post(train, 0, 2, 3, 4, 15);
+        NightSorters train = Trains.with(Trains.sorter(1, ALL));
+        Trains.post(train, 0, 2, 3, 4, 15);
         check.same("pass(40)", train.pass(40), 0);
         check.same("pass(1)", train.pass(1), 2);
         check.same("pass(19)", train.pass(19), 0);
@@ -66,8 +52,8 @@ public final class MinutesTest {
     }
 
     private static void takesTheSmallestNumberOfTheOwnTowns() {
-        NightSorters train = trainWith(new int[] {2, 1 << 7 | 1 << 9});
-        post(train, 0, 8, 9, 7, 9);
+        NightSorters train = Trains.with(Trains.sorter(2, 1 << 7 | 1 << 9));
+        Trains.post(train, 0, 8, 9, 7, 9);
         train.pass(22);
         check.same("sorter(0, 4)", train.sorter(0, 4), 1);
         train.pass(2);
@@ -81,8 +67,8 @@ public final class MinutesTest {
 
     private static void needsPace() {
         for (int pace = 1; pace <= 9; pace++) {
-            NightSorters train = trainWith(new int[] {pace, ALL});
-            post(train, 0, 14);
+            NightSorters train = Trains.with(Trains.sorter(pace, ALL));
+            Trains.post(train, 0, 14);
             train.pass(21 + pace - 1);
             check.same("letter(0, 0), pace " + pace, train.letter(0, 0), pace == 1 ? 1 : 2);
             check.same("sorter(0, 5)", train.sorter(0, 5), pace == 1 ? 0 : 1);
@@ -95,8 +81,8 @@ public final class MinutesTest {
     }
 
     private static void needsMoreWhenTired() {
-        NightSorters train = trainWith(new int[] {1, ALL});
-        post(train, 0, 15, 15, 15, 15, 15, 15, 14, 14, 14, 14, 14);
+        NightSorters train = Trains.with(Trains.sorter(1, ALL));
+        Trains.post(train, 0, 15, 15, 15, 15, 15, 15, 14, 14, 14, 14, 14);
         train.pass(26);
         check.same("sorter(0, 6)", train.sorter(0, 6), 5);
         train.pass(1);
@@ -110,9 +96,9 @@ public final class MinutesTest {
     private static void needsLessWithTea() {
         int[] needed = {1, 1, 1, 2, 3, 4, 5, 6, 7};
         for (int pace = 1; pace <= 9; pace++) {
-            NightSorters train = trainWith(new int[] {pace, ALL});
+            NightSorters train = Trains.with(Trains.sorter(pace, ALL));
             train.tea(0);
-            post(train, 0, 14);
+            Trains.post(train, 0, 14);
             train.pass(21 + needed[pace - 1] - 1);
             check.same("sorter(0, 6), pace " + pace, train.sorter(0, 6), 0);
             train.pass(1);
@@ -121,8 +107,8 @@ public final class MinutesTest {
     }
 
     private static void keepsTheMinutesItTook() {
-        NightSorters train = trainWith(new int[] {9, ALL});
-        post(train, 0, 15, 15);
+        NightSorters train = Trains.with(Trains.sorter(9, ALL));
+        Trains.post(train, 0, 15, 15);
         train.pass(22);
         train.tea(0);
         check.same("sorter(0, 5)", train.sorter(0, 5), 8);
@@ -133,9 +119,9 @@ public final class MinutesTest {
     }
 
     private static void fullHole() {
-        NightSorters train = trainWith(new int[] {1, 1 << 14});
+        NightSorters train = Trains.with(Trains.sorter(1, 1 << 14));
         train.tea(0);
-        post(train, 0, 14, 14, 14, 14, 14, 14, 14, 14, 14);
+        Trains.post(train, 0, 14, 14, 14, 14, 14, 14, 14, 14, 14);
         train.pass(29);
         check.same("hole(14)", train.hole(14), 8);
         check.same("count(4)", train.count(4), 1);
@@ -154,9 +140,9 @@ public final class MinutesTest {
 
     /** What the first sorter puts back onto the table the second one can take in the same minute. */
     private static void sortersGoOneBehindTheOther() {
-        NightSorters train = trainWith(new int[] {1, 1 << 14}, new int[] {9, 0});
+        NightSorters train = Trains.with(Trains.sorter(1, 1 << 14), Trains.sorter(9, 0));
         train.tea(0);
-        post(train, 0, 14, 14, 14, 14, 14, 14, 14, 14, 14);
+        Trains.post(train, 0, 14, 14, 14, 14, 14, 14, 14, 14, 14);
         train.pass(29);
         train.tea(0);
         train.assign(1, 1 << 14);
@@ -168,8 +154,9 @@ public final class MinutesTest {
     }
 
     private static void sortersShareTheTable() {
-        NightSorters train = trainWith(new int[] {3, ALL}, new int[] {2, 1 << 10}, new int[] {2, ALL}, new int[] {1, ALL});
-        post(train, 0, 10, 11, 12, 13);
+        NightSorters train = Trains.with(Trains.sorter(3, ALL), Trains.sorter(2, 1 << 10), Trains.sorter(2, ALL),
+            Trains.sorter(1, ALL));
+        Trains.post(train, 0, 10, 11, 12, 13);
         train.pass(22);
         check.same("sorter(0, 4)", train.sorter(0, 4), 0);
         check.same("sorter(1, 4)", train.sorter(1, 4), -1);
@@ -180,8 +167,8 @@ public final class MinutesTest {
     }
 
     private static void sortedInTheMinuteOfTheStation() {
-        NightSorters train = trainWith(new int[] {9, ALL});
-        post(train, 0, 2);
+        NightSorters train = Trains.with(Trains.sorter(9, ALL));
+        Trains.post(train, 0, 2);
         train.setStation(1, 29, 0);
         check.same("pass(30)", train.pass(30), 1);
         check.same("letter(0, 4)", train.letter(0, 4), 29);
@@ -189,8 +176,8 @@ public final class MinutesTest {
     }
 
     private static void bagComesBehindTheSorters() {
-        NightSorters train = trainWith(new int[] {1, ALL});
-        post(train, 0, 15);
+        NightSorters train = Trains.with(Trains.sorter(1, ALL));
+        Trains.post(train, 0, 15);
         train.pass(20);
         check.same("count(3) in 20", train.count(3), 1);
         train.pass(1);
@@ -201,8 +188,8 @@ public final class MinutesTest {
     }
 
     private static void lateOnTheTableAndInHands() {
-        NightSorters train = trainWith(new int[] {9, 1 << 2 | 1 << 15});
-        post(train, 0, 2, 2, 3, 4);
+        NightSorters train = Trains.with(Trains.sorter(9, 1 << 2 | 1 << 15));
+        Trains.post(train, 0, 2, 2, 3, 4);
         train.setStation(1, 28, 0);
         check.same("pass(28)", train.pass(28), 0);
         check.same("letter(0, 0)", train.letter(0, 0), 2);
@@ -220,8 +207,8 @@ public final class MinutesTest {
     }
 
     private static void bagLettersForPassedTownsAreLate() {
-        NightSorters train = trainWith();
-        post(train, 2, 0, 3, 4, 5, 6, 15);
+        NightSorters train = Trains.with();
+        Trains.post(train, 2, 0, 3, 4, 5, 6, 15);
         train.pass(41);
         check.same("count(8), still in the bag", train.count(8), 0);
         train.pass(20);
@@ -233,23 +220,23 @@ public final class MinutesTest {
     }
 
     private static void passedBagsStay() {
-        NightSorters train = trainWith(new int[] {1, ALL});
+        NightSorters train = Trains.with(Trains.sorter(1, ALL));
         train.pass(21);
-        post(train, 0, 0, 1, 2, 15);
+        Trains.post(train, 0, 0, 1, 2, 15);
         train.pass(300);
         for (int letter = 0; letter < 4; letter++) {
             check.same("letter(" + letter + ", 0)", train.letter(letter, 0), 0);
         }
-        NightSorters inTime = trainWith(new int[] {1, ALL});
+        NightSorters inTime = Trains.with(Trains.sorter(1, ALL));
         inTime.pass(20);
-        post(inTime, 0, 15);
+        Trains.post(inTime, 0, 15);
         inTime.pass(1);
         check.same("letter(0, 0), posted in the minute", inTime.letter(0, 0), 1);
     }
 
     private static void movedStations() {
-        NightSorters train = trainWith(new int[] {1, ALL});
-        post(train, 0, 2);
+        NightSorters train = Trains.with(Trains.sorter(1, ALL));
+        Trains.post(train, 0, 2);
         train.setStation(0, 5, 0);
         train.setStation(1, 6, 0);
         train.pass(6);
@@ -263,9 +250,9 @@ public final class MinutesTest {
     /** Tea, a hole with a letter, and being tired, around the fifth minute behind a jolt of each kind. */
     private static void jolts() {
         for (int jolt = 0; jolt <= 3; jolt++) {
-            NightSorters train = trainWith(new int[] {1, 1 << 15}, new int[] {1, 0});
+            NightSorters train = Trains.with(Trains.sorter(1, 1 << 15), Trains.sorter(1, 0));
             train.setStation(0, 20, jolt);
-            post(train, 0, 15);
+            Trains.post(train, 0, 15);
             train.pass(22);
             train.tea(0);
             train.tea(1);
@@ -289,9 +276,9 @@ public final class MinutesTest {
     }
 
     private static void joltSpillsTheFullestHole() {
-        NightSorters train = trainWith(new int[] {1, ALL}, new int[] {1, ALL});
+        NightSorters train = Trains.with(Trains.sorter(1, ALL), Trains.sorter(1, ALL));
         train.setStation(0, 20, 2);
-        post(train, 0, 9, 12, 13, 12, 13);
+        Trains.post(train, 0, 9, 12, 13, 12, 13);
         train.pass(25);
         check.same("count(6)", train.count(6), 5);
         train.pass(1);
@@ -305,19 +292,19 @@ public final class MinutesTest {
 
     /** In one minute the holes of the station are emptied first; the jolt spills what is left. */
     private static void joltBehindTheStationOfItsMinute() {
-        NightSorters train = trainWith(new int[] {1, ALL}, new int[] {1, ALL});
+        NightSorters train = Trains.with(Trains.sorter(1, ALL), Trains.sorter(1, ALL));
         train.setStation(0, 20, 2);
         train.setStation(1, 25, 0);
-        post(train, 0, 2, 2, 15);
+        Trains.post(train, 0, 2, 2, 15);
         check.same("pass(26)", train.pass(26), 2);
         check.same("letter(2, 0)", train.letter(2, 0), 1);
         check.same("count(8)", train.count(8), 0);
     }
 
     private static void joltOfAllEmptyHoles() {
-        NightSorters train = trainWith(new int[] {1, 0});
+        NightSorters train = Trains.with(Trains.sorter(1, 0));
         train.setStation(0, 20, 3);
-        post(train, 0, 15);
+        Trains.post(train, 0, 15);
         train.pass(26);
         check.same("letter(0, 0)", train.letter(0, 0), 1);
         check.same("sorter(0, 2)", train.sorter(0, 2), 3);
@@ -325,10 +312,10 @@ public final class MinutesTest {
     }
 
     private static void joltTiresButLeavesTheMinutes() {
-        NightSorters train = trainWith(new int[] {8, ALL});
+        NightSorters train = Trains.with(Trains.sorter(8, ALL));
         train.setStation(0, 20, 3);
         train.tea(0);
-        post(train, 0, 15, 15);
+        Trains.post(train, 0, 15, 15);
         train.pass(26);
         check.same("sorter(0, 5)", train.sorter(0, 5), 1);
         check.same("sorter(0, 4)", train.sorter(0, 4), 0);
@@ -339,7 +326,7 @@ public final class MinutesTest {
     }
 
     private static void joltsOfStationsCloseTogether() {
-        NightSorters train = trainWith(new int[] {1, 0});
+        NightSorters train = Trains.with(Trains.sorter(1, 0));
         train.setStation(0, 1, 3);
         train.setStation(1, 2, 1);
         train.setStation(2, 3, 3);

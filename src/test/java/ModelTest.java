@@ -1,9 +1,3 @@
-import java.lang.reflect.InvocationTargetException;
-import java.lang.reflect.Method;
-import java.lang.reflect.Modifier;
-import java.util.HashMap;
-import java.util.Map;
-
 /** Long runs of mixed calls, each answered by the class and by PlainTrain; the digest is compared behind each call. */
 public final class ModelTest {
     private static final int RUNS = 150;
@@ -14,9 +8,6 @@ public final class ModelTest {
     };
     // Posting and passing come more often: without them a run has little to tell.
     private static final int[] OFTEN = {4, 16, 2, 3, 3, 3, 2, 2, 2, 2, 10, 3, 3, 1, 1, 1};
-
-    private static final Map<String, Method> CALLS_OF_CLASS = callsOf(NightSorters.class);
-    private static final Map<String, Method> CALLS_OF_MODEL = callsOf(PlainTrain.class);
 
     private static final Check check = new Check("ModelTest");
 
@@ -78,7 +69,7 @@ public final class ModelTest {
 
     private static void compare(int run, NightSorters train, PlainTrain plain, String method, int... a) {
         String told = "run " + run + ", " + method + "(" + a[0] + ", " + a[1] + ", " + a[2] + ")";
-        check.same(told, answer(CALLS_OF_CLASS, train, method, a), answer(CALLS_OF_MODEL, plain, method, a));
+        check.same(told, Calls.answer(train, method, a), Calls.answer(plain, method, a));
         check.same("digest() behind " + told, train.digest(), plain.digest());
     }
 
@@ -156,30 +147,5 @@ public final class ModelTest {
             default:
                 return pick(0, 5);
         }
-    }
-
-    private static String answer(Map<String, Method> calls, Object train, String method, int[] a) {
-        Method call = calls.get(method);
-        Object[] arguments = new Object[call.getParameterCount()];
-        for (int i = 0; i < arguments.length; i++) {
-            arguments[i] = a[i];
-        }
-        try {
-            return "" + call.invoke(train, arguments);
-        } catch (InvocationTargetException e) {
-            return e.getCause().getClass().getSimpleName();
-        } catch (IllegalAccessException e) {
-            return "no such call";
-        }
-    }
-
-    private static Map<String, Method> callsOf(Class<?> type) {
-        Map<String, Method> calls = new HashMap<>();
-        for (Method method : type.getDeclaredMethods()) {
-            if (!Modifier.isPrivate(method.getModifiers())) {
-                calls.put(method.getName(), method);
-            }
-        }
-        return calls;
     }
 }
