@@ -37,6 +37,7 @@ public final class CallEdgesTest {
         sorterTakesWhats();
         sorterAnswersAtItsEdges();
         sorterCountsWhatItPutIntoHoles();
+        sorterCountsWhatThisOnePutIntoHoles();
         holeTakesTowns();
         holeEmptyAndFull();
         stationTakesStations();
@@ -482,6 +483,26 @@ public final class CallEdgesTest {
         check.same("sorter(0, 6), delivered", train.sorter(0, 6), 1);
         check.same("sorter(1, 6), spilled and sorted again", train.sorter(1, 6), 4);
         check.same("sorter(2, 6), late in hands", train.sorter(2, 6), 0);
+    }
+
+    private static void sorterCountsWhatThisOnePutIntoHoles() {
+        check.sentence("6 letters that this one put into holes in all");
+        NightSorters train = Trains.with(Trains.sorter(1, 1 << 15), Trains.sorter(1, 0));
+        train.setStation(0, 20, 2);
+        Trains.postMany(train, 0, 15, 9);
+        Trains.to(train, 25);
+        check.same("sorter(0, 6) ahead of the jolt", train.sorter(0, 6), 4);
+        train.assign(0, 0);
+        train.assign(1, 1 << 15);
+        Trains.to(train, 26);
+        check.same("hole(15) behind the jolt", train.hole(15), 0);
+        check.same("sorter(0, 6), its letters spilled", train.sorter(0, 6), 4);
+        check.same("sorter(1, 6), its first letter spilled", train.sorter(1, 6), 1);
+        Trains.to(train, 100);
+        check.same("hole(15) full", train.hole(15), 8);
+        check.same("sorter(0, 6), its letters put by another", train.sorter(0, 6), 4);
+        check.same("sorter(1, 6), one put twice, and the ninth put back", train.sorter(1, 6), 9);
+        check.same("sorter(1, 2), which the ninth tires, too", train.sorter(1, 2) > 9 ? 1 : 0, 1);
     }
 
     // ---- 9: hole
